@@ -54,7 +54,6 @@ public final class EditionBook {
     private static final int BEGUN = 1;
     private static final int BROKEN = 2;
 
-    private static final int ACTS = 19;
     private static final int ACTS_WITH_INT = 8;
     private static final int ACT_SELF = 16;
     private static final int ACT_ARGUMENT = 17;
@@ -960,7 +959,7 @@ public final class EditionBook {
             int pile = 0;
             for (int i = 0; i < TEXT_MOST && place < to; i++) {
                 int act = textAt(place);
-                if (act < 0 || act >= ACTS || pile < TAKES[act]) {
+                if (act < 0 || act >= TAKES.length || pile < TAKES[act]) {
                     return place;
                 }
                 if (!inMethod && (act == ACT_SELF || act == ACT_ARGUMENT)) {
