@@ -379,6 +379,7 @@ public final class CallEdgeTest {
             Check.due("written(3, " + i + ", 1)", x.written(3, i, 1), 100 + i);
         }
         for (int i = 20; i < 31; i++) {
+            Check.due("written(3, " + i + ", 0)", x.written(3, i, 0), 0);
             Check.due("written(3, " + i + ", 1)", x.written(3, i, 1), 0);
         }
         // just 20, and just 21
@@ -389,6 +390,22 @@ public final class CallEdgeTest {
         Check.due("written(3, 19, 1)", x.written(3, 19, 1), 7);
         Check.due("written(3, 20, 1)", x.written(3, 20, 1), 0);
         Check.due("of(3, 3)", x.of(3, 3), 21);
+
+        // ints and OBJECTS by turns, an OBJECT as the 20th
+        x.clazz(4, -1, 0, 1, 0, 7, 17, 15, 16, 15, 17, 18, 18);
+        x.value(5, 2, 4);
+        int o = x.edition(x.newest(5), 6);
+        Check.due("an OBJECT that isn't number 0", o > 0, true);
+        x.value(6, Rows.join(Rows.times(11, 1, 5), Rows.row(0, 7), Rows.times(11, 7, 0)));
+        Check.due("of(6, 3)", x.of(6, 3), 22);
+        for (int i = 0; i < 20; i++) {
+            Check.due("written(6, " + i + ", 0)", x.written(6, i, 0), i % 2);
+            Check.due("written(6, " + i + ", 1)", x.written(6, i, 1), i % 2 == 0 ? 7 : o);
+        }
+        for (int i : new int[] {-2, -1, 20, 21, 22}) {
+            Check.due("written(6, " + i + ", 0)", x.written(6, i, 0), 0);
+            Check.due("written(6, " + i + ", 1)", x.written(6, i, 1), 0);
+        }
 
         Check.sentence("Promise 12", "VALUE i that a CELL wrote in that RUN");
         x.retype(3, code);
@@ -534,6 +551,16 @@ public final class CallEdgeTest {
             Check.due("field(" + o + ", 0, 1)", x.field(o, 0, 1), 0);
         }
 
+        // FIELDS 0 and 9 are beside those that there aren't: whatever they have isn't told there
+        x.value(7, 1, 2, 1, 3, 6, 9);
+        x.value(7, 1, 2, 1, 3, 6, 0);
+        for (int f : new int[] {-1, 10}) {
+            Check.due("field(0, " + f + ", 0)", x.field(0, f, 0), -1);
+            Check.due("field(0, " + f + ", 1)", x.field(0, f, 1), 0);
+        }
+        x = bookOfObjects();
+        x.rerun(1);
+
         Check.sentence("Promise 18", "Whether an OBJECT is of an EDITION or below it");
         boolean[][] wants = {{true, true, false, false, false, false}, {true, false, false, false, false, false}};
         for (int o = 0; o < 2; o++) {
@@ -636,6 +663,26 @@ public final class CallEdgeTest {
         Check.due("field(3, 5, 0), one that the CLASS hasn't", x.field(3, 5, 0), -1);
         Check.due("convert(1, 1)", x.convert(1, 1), 4);
         Check.due("field(4, 5, 1), the first int", x.field(4, 5, 1), 16);
+
+        // all ten, ints and OBJECTS
+        Book y = new Book();
+        y.clazz(0, -1, 4, 0, 0, 1, 0, 2, 0, 3, 0, 0);
+        y.clazz(0, 0, 4, 4, 0, 5, 0, 6, 0, 7, 0, 0);
+        y.clazz(0, 0, 2, 8, 0, 9, 0, 0);
+        y.value(1, 2, 0, 2, 0, 18);
+        for (int f = 0; f < 10; f++) {
+            y.value(2, f % 2 == 0 ? Rows.row(1, 1, 0, 50 + f, 6, f) : Rows.row(1, 1, 1, 1, 6, f));
+        }
+        Check.due("convert(1, 0)", y.convert(1, 0), 2);
+        for (int f = 0; f < 10; f++) {
+            Check.due("field(2, " + f + ", 0)", y.field(2, f, 0), f % 2);
+            Check.due("field(2, " + f + ", 1)", y.field(2, f, 1), f % 2 == 0 ? 50 + f : 1);
+            Check.due("field(0, " + f + ", 1), another OBJECT", y.field(0, f, 1), 0);
+        }
+        // they are each their own from then on
+        y.value(3, 1, 1, 0, 99, 6, 0);
+        Check.due("field(1, 0, 1)", y.field(1, 0, 1), 99);
+        Check.due("field(2, 0, 1)", y.field(2, 0, 1), 50);
 
         Check.sentence("Promise 21", "without its START");
         x.clazz(7, -1, 0, 0, 0, 0, 5, 0);
@@ -777,6 +824,39 @@ public final class CallEdgeTest {
         Check.due("newest(6)", x.newest(6), 5);
         Check.due("newest(7)", x.newest(7), -1);
         came(x, 1, 0, 0, 1);
+
+        Check.sentence("Promise 23", "What is kept is again (numbers that come again have nothing of what they were)");
+        x = new Book();
+        x.clazz(0, -1, 0, 0);
+        x.keep(0);
+        x.clazz(1, -1, 4, 0, 1, 1, 2, 2, 3, 9, 4, 3, 0, 1, 16, 1, 1, 16, 4, 1, 16, 0, 0, 5, 0);
+        x.value(2, 0, 6, 15, 15, 2, 1, 18);
+        x.convert(0, 1);
+        Check.due("none to be carried over", x.count(1), 0);
+        x.value(3, 2, 0);
+        x.convert(0, 1);
+        Check.due("edition(1, 6)", x.edition(1, 6), 2);
+        Check.due("of(2, 1)", x.of(2, 1), 6);
+        x.back(0);
+        Check.due("a CLASS again", x.clazz(1, -1, 0, 0), 1);
+        int[] wants = {1, 0, 1, 1, 1, -1, 0, 0};
+        for (int what = 0; what < 8; what++) {
+            Check.due("edition(1, " + what + ")", x.edition(1, what), wants[what]);
+        }
+        Check.due("a VALUE again", x.value(2, 2, 1, 2, 1, 18), 2);
+        int[] wantsOf = {0, 0, 3, 0, 2, 2, 0, 1, 5};
+        for (int what = 0; what < 9; what++) {
+            Check.due("of(2, " + what + ")", x.of(2, what), wantsOf[what]);
+        }
+        for (int f = 0; f < 10; f++) {
+            Check.due("field(0, " + f + ", 0)", x.field(0, f, 0), -1);
+            Check.due("field(1, " + f + ", 0)", x.field(1, f, 0), -1);
+            Check.due("field(1, " + f + ", 1)", x.field(1, f, 1), 0);
+        }
+        for (int m = 0; m < 5; m++) {
+            Check.due("call(0, " + m + ", 0)", x.call(0, m, 0), 1);
+        }
+        Check.due("written(2, 0, 1)", x.written(2, 0, 1), 0);
 
         Check.sentence("Promise 22", "(a full book is kept, and a small one comes back)");
         x = new Book();

@@ -222,7 +222,8 @@ public final class RunEdgeTest {
         Check.due("field(0, 0, 1)", x.field(0, 0, 1), 30);
         Check.due("field(1, 0, 1)", x.field(1, 0, 1), 10);
 
-        Check.sentence("Terms 2", "It is of an EDITION or below it if its CLASS is that, or a parent, their parents and so on");
+        Check.sentence("Terms 2", "It is of an EDITION or below it if its CLASS is that, or a parent, their parents "
+            + "and so on");
         Check.due("is(0, 2)", x.is(0, 2), true);
         Check.due("is(0, 1)", x.is(0, 1), true);
         Check.due("is(0, 0)", x.is(0, 0), true);
@@ -230,16 +231,31 @@ public final class RunEdgeTest {
         Check.due("is(1, 0)", x.is(1, 0), true);
         x.rerun(0);
         Check.due("of no newer EDITION", x.is(0, x.newest(0)), false);
+        // as many parents as there may be: the one that FAILS leaves an OBJECT, and takes no EDITION
         x = new Book();
         x.clazz(0, -1, 1, 9, 77, 1, 4, 1, 17);
-        for (int e = 1; e < 140; e++) {
-            x.retype(0, 0, 0, 0);
+        x.value(1, 2, 0, 5, 0);
+        x.retype(0, 0, 0, 0);
+        x.makeEditions(0, 150);
+        Check.due("convert(0, 0)", x.convert(0, 0), 1);
+        Check.due("classOf(1)", x.classOf(1), 149);
+        for (int e = 0; e < 150; e++) {
+            Check.due("is(1, " + e + ")", x.is(1, e), true);
+            Check.due("is(0, " + e + ")", x.is(0, e), e == 0);
         }
-        x.value(1, 2, 0);
-        Check.due("139 parents", x.is(0, 0), true);
-        Check.due("their FIELD", x.field(0, 9, 1), 77);
-        Check.due("their METHOD", x.call(0, 4, 3), 0);
+        Check.due("their FIELD", x.field(1, 9, 1), 77);
+        Check.due("their METHOD", x.call(1, 4, 3), 0);
         Check.due("came(1)", x.came(1), 3);
+        // and as many STARTS
+        x = new Book();
+        x.clazz(0, -1, 0, 0, 0, 5, 15);
+        x.retype(0, 0, 0, 0, 0, 6, 15);
+        x.makeEditions(0, 149);
+        x.value(1, 2, 0);
+        well(x, 1, 1 + 2 * 149);
+        Check.due("of(1, 3)", x.of(1, 3), 149);
+        Check.due("from the top on", x.written(1, 0, 1), 5);
+        Check.due("written(1, 1, 1)", x.written(1, 1, 1), 6);
 
         Check.sentence("Terms 2", "METHOD m of it is that of the nearest of these");
         x = new Book();
@@ -471,6 +487,18 @@ public final class RunEdgeTest {
         failed(x, c, SORT, 7);
         Check.due("of(c, 3)", x.of(c, 3), 1);
         Check.due("count(1)", x.count(1), had + 2);
+
+        Check.sentence("Terms 2", "An act that FAILS ends all (nothing on a pile is left for what comes later)");
+        x = new Book();
+        int[] failing = Rows.join(Rows.times(19, 0, 1), Rows.row(5, 0), Rows.times(18, 18));
+        Check.due("cell", x.value(0, failing), 0);
+        for (int i = 0; i < 400; i++) {
+            x.rerun(0);
+        }
+        failed(x, 0, SORT, 20);
+        Check.due("cell", x.value(1, 0, 3, 0, 4, 9), 1);
+        well(x, 1, 3);
+        Check.due("its VALUE", x.edition(0, 6), -1);
     }
 
     // ---- depth
@@ -503,6 +531,26 @@ public final class RunEdgeTest {
         well(x, x.value(7, 1, 5, 0, 1, 7, 0), 194);
         // METHODS behind one another aren't within one another
         well(x, x.value(7, 1, 5, 1, 5, 0, 1, 7, 0, 0, 1, 18, 7, 0), 2 + 1 + 1 + 191 + 2 + 1 + 191);
+
+        Check.sentence("Terms 2", "that are on the way (what each has on its pile is there when it goes on)");
+        x = new Book();
+        x.clazz(2, -1, 0, 1, 0, 1, 17);
+        x.value(3, 2, 2);
+        // METHOD 0 with argument a up to 18 puts 1 to 10 ahead of its call, and adds them up behind it
+        x.clazz(4, Rows.join(Rows.row(-1, 0, 1, 0, 44), oneToTen(),
+            Rows.row(17, 0, 18, 12, 16, 1, 3, 14, 17, 0, 1, 8, 7, 0), Rows.times(10, 8)));
+        x.value(5, 2, 4);
+        Check.due("20 METHODS", x.call(1, 0, 0), 0);
+        Check.due("came(1)", x.came(1), 19 + 19 * 55);
+        Check.due("came(3)", x.came(3), 19 * 30 + 1);
+    }
+
+    private static int[] oneToTen() {
+        int[] code = new int[20];
+        for (int i = 0; i < 10; i++) {
+            code[2 * i + 1] = i + 1;
+        }
+        return code;
     }
 
     private static void depthOfStarts() {

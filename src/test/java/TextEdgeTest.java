@@ -155,6 +155,16 @@ public final class TextEdgeTest {
         comes(2, 0, 5, 0, 2, 18);
         comes(11, 0, 10, 0, 6, 0, 5, 9, 8);
 
+        Check.sentence("Terms 1", "each act takes VALUES from a pile and puts one on it (what is below them stays)");
+        int[][] tens = {
+            {0, 10}, {1, 0, 0, 3, 8}, {2, 1, 0, 10, 18}, {0, 9, 1, 13, 3, 1, 8}, {0, 10, 1, 13, 4, 1, 3, 15, 8},
+            {0, 2, 0, 8, 8}, {0, 12, 0, 2, 9}, {0, 5, 0, 2, 10}, {0, 21, 0, 2, 11}, {0, 9, 0, 1, 0, 2, 12, 8},
+            {0, 9, 0, 1, 0, 1, 13, 8}, {0, 0, 0, 5, 0, 10, 14}, {0, 10, 15}, {0, 4, 0, 10, 18}};
+        for (int[] ten : tens) {
+            comes(1010, Rows.join(Rows.row(0, 7, 0, 1000), ten, Rows.row(8, 18)));
+            comes(990, Rows.join(Rows.row(0, 1000), ten, Rows.row(9)));
+        }
+
         Check.sentence("Terms 1", "3 n: puts 1 if it is an OBJECT of NAME n or below it, else 0 (also of an int)");
         comes(1, 1, 13, 3, 1);
         comes(0, 1, 13, 3, 15);
@@ -211,6 +221,70 @@ public final class TextEdgeTest {
         comes(7, 0, 0, 0, 6, 0, 7, 14);
         comes(7, 0, 0, 1, 13, 0, 7, 14);
         comes(6, 0, 1, 0, 6, 1, 13, 14);
+    }
+
+    /** NAME 0 a CLASS whose METHOD 0 ends with its argument, 1 one below it; 2 an OBJECT of 1 (number 0), 3 one of 0 (1). */
+    private static Book bookOfFields() {
+        Book x = new Book();
+        x.clazz(0, -1, 4, 0, 100, 1, 101, 2, 102, 3, 103, 1, 0, 1, 17);
+        x.clazz(1, 0, 4, 4, 104, 5, 105, 6, 106, 7, 107, 0);
+        x.clazz(1, 1, 2, 8, 108, 9, 109, 0);
+        x.value(2, 2, 1);
+        x.value(3, 2, 0);
+        return x;
+    }
+
+    private static void ended(Book x, int c, int kind, int number) {
+        Check.due("OUTCOME", x.of(c, 0), 0);
+        Check.due("kind of the VALUE", x.edition(x.of(c, 4), 5), kind);
+        Check.due("the VALUE", x.edition(x.of(c, 4), 6), number);
+    }
+
+    private static void fieldsAndMethods() {
+        Check.sentence("Terms 1", "5 f: puts what its FIELD f has (each of the ten)");
+        Book x = bookOfFields();
+        for (int f = 0; f < 10; f++) {
+            ended(x, x.value(4, 0, 1, 1, 2, 5, f, 8), 0, 101 + f);
+        }
+
+        Check.sentence("Terms 1", "6 f: the FIELD f of that gets the VALUE, which is put (an int)");
+        for (int f = 0; f < 10; f++) {
+            ended(x, x.value(4, 0, 1, 1, 2, 0, -f, 6, f, 8), 0, 1 - f);
+            Check.due("field(0, " + f + ", 0)", x.field(0, f, 0), 0);
+            Check.due("field(0, " + f + ", 1)", x.field(0, f, 1), -f);
+        }
+        Check.due("none of another OBJECT", x.field(1, 3, 1), 103);
+
+        Check.sentence("Terms 1", "6 f: the FIELD f of that gets the VALUE, which is put (an OBJECT)");
+        x = bookOfFields();
+        for (int f = 0; f < 10; f++) {
+            ended(x, x.value(4, 0, 1, 1, 2, 1, 3, 6, f, 18), 1, 1);
+            Check.due("field(0, " + f + ", 0)", x.field(0, f, 0), 1);
+            Check.due("field(0, " + f + ", 1)", x.field(0, f, 1), 1);
+            ended(x, x.value(5, 1, 2, 5, f), 1, 1);
+        }
+        // an int again, and the OBJECT itself
+        ended(x, x.value(6, 1, 2, 0, 5, 6, 9), 0, 5);
+        Check.due("field(0, 9, 0)", x.field(0, 9, 0), 0);
+        ended(x, x.value(6, 1, 2, 1, 2, 6, 9), 1, 0);
+        Check.due("field(0, 9, 0)", x.field(0, 9, 0), 1);
+        Check.due("field(0, 9, 1)", x.field(0, 9, 1), 0);
+
+        Check.sentence("Terms 1", "7 m: that VALUE being the argument (an int, an OBJECT, the OBJECT itself)");
+        x = bookOfFields();
+        ended(x, x.value(4, 0, 3, 1, 2, 0, MIN, 7, 0, 18), 0, MIN);
+        ended(x, x.value(4, 0, 3, 1, 2, 1, 3, 7, 0, 18), 1, 1);
+        ended(x, x.value(4, 0, 3, 1, 2, 1, 2, 7, 0, 18), 1, 0);
+        ended(x, x.value(4, 0, 3, 1, 2, 0, 4, 7, 0, 8), 0, 7);
+
+        Check.sentence("Terms 1", "1 n: puts the VALUE of NAME n; 14, 15, 18 put an OBJECT or an int");
+        ended(x, x.value(4, 1, 3), 1, 1);
+        ended(x, x.value(4, 0, 1, 1, 3, 0, 5, 14), 1, 1);
+        ended(x, x.value(4, 0, 0, 1, 3, 0, 5, 14), 0, 5);
+        ended(x, x.value(4, 0, 0, 0, 5, 1, 3, 14), 1, 1);
+        ended(x, x.value(4, 1, 3, 15), 1, 1);
+        ended(x, x.value(4, 0, 5, 1, 3, 18), 1, 1);
+        ended(x, x.value(4, 1, 3, 0, 5, 18), 0, 5);
     }
 
     // ---- what is RIGHT
@@ -450,6 +524,7 @@ public final class TextEdgeTest {
         names();
         lengthOfTexts();
         whatActsPut();
+        fieldsAndMethods();
         whatIsRight();
         whereTheFaultIs();
         parents();
