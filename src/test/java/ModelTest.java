@@ -9,7 +9,8 @@ import java.util.TreeSet;
 
 /**
  * Random runs of calls, each answer compared with that of a second, slower reading of the
- * document (recursive, with exceptions), which shares no code with EditionBook.
+ * document (recursive, with exceptions), which shares no code with EditionBook. No book hears
+ * more than 512 calls, so that only what is promised is compared.
  * Arguments: how many runs (1000 without), the first seed (1 without).
  */
 public final class ModelTest {
@@ -621,12 +622,18 @@ public final class ModelTest {
 
         void code(int size, boolean method) {
             inMethod = method;
-            any(size);
+            int heavy = heavyName(2);
+            if (heavy >= 0 && r.nextInt(8) == 0) {
+                add(2, heavy, 0, smallInt(), 7, r.nextInt(4) == 0 ? 4 : 3);
+                if (r.nextInt(3) == 0) { add(2, heavy, 0, smallInt(), 7, 3, 18); }
+            } else {
+                any(size);
+            }
         }
 
         /** METHODS that call the next one five times over: with a CLASS and one below it, beyond 1,000 STEPS. */
         void heavyClass() {
-            int upper = heavyName();
+            int upper = heavyName(3);
             boolean lower = upper >= 0;
             add(upper, 0);
             int[][] chain = lower ? new int[][] {{3, 0}, {4, 3}} : new int[][] {{0, 1}, {1, 2}};
@@ -639,11 +646,12 @@ public final class ModelTest {
             if (!lower) { add(2, 2, 17, 15); }
         }
 
-        int heavyName() {
+        /** A NAME of a heavy CLASS: with three METHODS the upper one, with two the one below it. */
+        int heavyName(int methods) {
             for (int n = 0; n < 16; n++) {
                 int e = m.newest(n);
-                if (e >= 0 && m.s.eds.get(e).sort == 1 && m.s.eds.get(e).parent < 0
-                    && m.s.eds.get(e).shape.methods.size() == 3
+                if (e >= 0 && m.s.eds.get(e).sort == 1 && m.s.eds.get(e).shape.fields.isEmpty()
+                    && m.s.eds.get(e).shape.methods.size() == methods
                     && m.s.eds.get(e).shape.methods.get(0).code.size() == 24) { return n; }
             }
             return -1;
@@ -679,154 +687,257 @@ public final class ModelTest {
 
     // ---- the runs
 
+    /** A call, held fast so that another book can hear it, too. */
+    interface Call {
+        long on(EditionBook x);
+    }
+
+    record Look(String told, Call call, long want) { }
+
+    static final int CALLS_MOST = 512;
+    /** No step makes more calls than this. */
+    static final int CALLS_OF_STEP = 20;
+    /** How many books hear a run, so that more can be asked behind it than one book has calls for. */
+    static final int BOOKS = 4;
+    /** How often, of 100: cell, redo, rerun, rerunStale, forget, call, convert, keep, back; else put. */
+    static final int[][] MOODS = {
+        {30, 20, 6, 6, 2, 16, 6, 2, 1}, {16, 8, 40, 14, 3, 10, 4, 2, 1}, {55, 5, 8, 4, 1, 12, 8, 3, 1},
+        {12, 6, 6, 4, 1, 20, 45, 3, 1}, {25, 15, 10, 12, 6, 12, 5, 6, 5}};
+
     static int wrong = 0;
     static final Map<String, Integer> seen = new java.util.TreeMap<>();
 
     static long seed;
     static List<String> log;
+    static EditionBook x;
+    static List<Call> heard;
+    static Model m;
+    static Random r;
+    static int[] mood;
+    static int sizeMost;
 
-    static void same(String call, long got, long want) {
-        log.add(call + " = " + got);
+    static void same(String told, Call call, long want) {
+        if (heard.size() >= CALLS_MOST) { throw new IllegalStateException("beyond the 512th call"); }
+        heard.add(call);
+        compare(told, call.on(x), want);
+    }
+
+    static void same(String told, Call call, boolean want) { same(told, call, want ? 1 : 0); }
+
+    static void compare(String told, long got, long want) {
+        log.add(told + " = " + got);
         if (got != want) {
             wrong++;
-            System.out.println("seed " + seed + ": " + call + " answered " + got + ", due is " + want);
+            System.out.println("seed " + seed + ": " + told + " answered " + got + ", due is " + want);
             if (wrong == 1) {
                 for (int i = Math.max(0, log.size() - 40); i < log.size(); i++) { System.out.println("    " + log.get(i)); }
             }
         }
     }
 
+    static long bit(boolean b) { return b ? 1 : 0; }
+
     static void count(String key) { seen.merge(key, 1, Integer::sum); }
 
-    static void type(EditionBook x, Model m, Random r, int sort) {
+    static void type(int sort) {
         if (r.nextInt(30) == 0) { return; }
-        same("wipe()", x.wipe(), m.wipe());
+        if (!m.tape.isEmpty() || r.nextInt(20) == 0) { same("wipe()", b -> b.wipe(), m.wipe()); }
         Writer w = new Writer(r, m);
         for (int tries = 0; tries < 5; tries++) {
             w.out.clear();
-            if (sort == 1) { w.classText(); } else { w.code(r.nextInt(8), false); }
+            if (sort == 1) { w.classText(); } else { w.code(r.nextInt(sizeMost), false); }
             if (w.out.size() <= 60) { break; }
         }
         if (r.nextInt(12) == 0) { w.spoil(); }
-        for (int i = 0; i < w.out.size(); i += 4) {
+        for (int i = 0; i < w.out.size() && i < 64; i += 4) {
             int[] four = new int[4];
             int n = Math.min(4, w.out.size() - i);
             for (int j = 0; j < n; j++) { four[j] = w.out.get(i + j); }
             same("put(" + n + ", " + four[0] + ", " + four[1] + ", " + four[2] + ", " + four[3] + ")",
-                x.put(n, four[0], four[1], four[2], four[3]), m.put(n, four));
+                b -> b.put(n, four[0], four[1], four[2], four[3]), m.put(n, four));
         }
     }
 
-    static int near(Random r, int size) {
+    static int near(int size) {
         return r.nextInt(25) == 0 ? r.nextInt(3) - 1 + size : r.nextInt(Math.max(1, size));
     }
 
-    static void step(EditionBook x, Model m, Random r, int names) {
-        int name = r.nextInt(40) == 0 ? r.nextInt(20) - 2 : r.nextInt(names);
-        int cells = m.s.cels.size();
-        int objects = m.s.objs.size();
+    static int pickCall() {
         int k = r.nextInt(100);
-        int before = m.s.eds.size();
-        if (k < 30) {
-            int sort = r.nextInt(60) == 0 ? r.nextInt(4) - 1 : r.nextInt(5) < 2 ? 1 : 0;
-            type(x, m, r, sort);
-            int want = m.cell(name, sort);
-            same("cell(" + name + ", " + sort + ")", x.cell(name, sort), want);
-            if (want >= 0) { outcome("cell", m.s.cels.get(want)); } else { count("cell refused"); }
-        } else if (k < 50) {
-            int c = near(r, cells);
-            type(x, m, r, c >= 0 && c < cells ? m.s.cels.get(c).sort : 0);
-            int want = m.redo(c);
-            same("redo(" + c + ")", x.redo(c), want);
-            if (want >= 0) { outcome("redo", m.s.cels.get(c)); } else { count("redo refused"); }
-        } else if (k < 56) {
-            int c = near(r, cells);
-            int want = m.rerun(c);
-            same("rerun(" + c + ")", x.rerun(c), want);
-            if (want >= 0) { outcome("rerun", m.s.cels.get(c)); } else { count("rerun refused"); }
-        } else if (k < 62) {
-            int want = m.rerunStale();
-            same("rerunStale()", x.rerunStale(), want);
-            count("rerunStale " + (want < 0 ? "refused" : want > 3 ? "above 3" : want));
-        } else if (k < 64) {
-            same("forget(" + name + ")", x.forget(name), m.forget(name));
-        } else if (k < 80) {
-            int o = near(r, objects);
-            int meth = r.nextInt(20) == 0 ? r.nextInt(8) - 2 : r.nextInt(4);
-            int argument = r.nextInt(5);
-            int want = m.call(o, meth, argument);
-            same("call(" + o + ", " + meth + ", " + argument + ")", x.call(o, meth, argument), want);
-            count("call " + want + " " + m.came(2));
-        } else if (k < 86) {
-            int o = near(r, objects);
-            same("convert(" + o + ", " + name + ")", x.convert(o, name), m.convert(o, name));
-        } else if (k < 88) {
-            int place = r.nextInt(4) - 1;
-            same("keep(" + place + ")", x.keep(place) ? 1 : 0, m.keep(place) ? 1 : 0);
-        } else if (k < 89) {
-            int place = r.nextInt(4) - 1;
-            same("back(" + place + ")", x.back(place) ? 1 : 0, m.back(place) ? 1 : 0);
-        } else {
-            int n = r.nextInt(7) - 1;
-            same("put(" + n + ", 0, 1, 15, 18)", x.put(n, 0, 1, 15, 18), m.put(n, 0, 1, 15, 18));
+        int i = 0;
+        while (i < mood.length && k >= mood[i]) {
+            k -= mood[i];
+            i++;
         }
-        if (m.s.eds.size() == 150 && before < 150) { count("150 editions"); }
-        for (Ed e : m.s.eds) { if (e.sort == 1 && e.state != 0 && !e.shape.start.isEmpty()) { count("starts, state " + e.state); } }
-        if (m.s.objs.size() == 150 && objects < 150) { count("150 objects"); }
-        if (m.s.cels.size() == 40 && cells < 40) { count("40 cells"); }
+        return i;
     }
 
-    static void outcome(String call, Cel c) {
-        count(call + " outcome " + c.outcome + " failure " + c.failure);
-        if (c.wrote.size() > 20) { count("wrote above 20"); }
+    static void step(int names) {
+        int name = r.nextInt(40) == 0 ? r.nextInt(20) - 2 : r.nextInt(names);
+        int c = near(m.s.cels.size());
+        int o = near(m.s.objs.size());
+        int place = r.nextInt(4) - 1;
+        switch (pickCall()) {
+            case 0: newCell(name); break;
+            case 1: {
+                type(c >= 0 && c < m.s.cels.size() ? m.s.cels.get(c).sort : 0);
+                int want = m.redo(c);
+                same("redo(" + c + ")", b -> b.redo(c), want);
+                outcome("redo", want, c);
+                break;
+            }
+            case 2: {
+                int want = m.rerun(c);
+                same("rerun(" + c + ")", b -> b.rerun(c), want);
+                outcome("rerun", want, c);
+                break;
+            }
+            case 3: {
+                int want = m.rerunStale();
+                same("rerunStale()", b -> b.rerunStale(), want);
+                count("rerunStale " + (want < 0 ? "refused" : want > 3 ? "above 3" : want));
+                break;
+            }
+            case 4: same("forget(" + name + ")", b -> b.forget(name), m.forget(name)); break;
+            case 5: byHand(o); break;
+            case 6: same("convert(" + o + ", " + name + ")", b -> b.convert(o, name), m.convert(o, name)); break;
+            case 7: same("keep(" + place + ")", b -> bit(b.keep(place)), m.keep(place)); break;
+            case 8: same("back(" + place + ")", b -> bit(b.back(place)), m.back(place)); break;
+            default: {
+                int n = r.nextInt(7) - 1;
+                same("put(" + n + ", 0, 1, 15, 18)", b -> b.put(n, 0, 1, 15, 18), m.put(n, 0, 1, 15, 18));
+            }
+        }
     }
 
-    static void lookAtAll(EditionBook x, Model m) {
-        for (int c = -1; c <= m.s.cels.size(); c++) {
-            for (int what = -1; what <= 9; what++) { same("of(" + c + ", " + what + ")", x.of(c, what), m.of(c, what)); }
-            for (int i = -1; i <= 16; i++) { same("leans(" + c + ", " + i + ")", x.leans(c, i), m.leans(c, i)); }
-            same("stale(" + c + ")", x.stale(c) ? 1 : 0, m.stale().contains(c) ? 1 : 0);
-            for (int i = -1; i <= 21; i++) {
-                for (int what = -1; what <= 2; what++) {
-                    same("written(" + c + ", " + i + ", " + what + ")", x.written(c, i, what), m.written(c, i, what));
+    static void newCell(int name) {
+        int sort = r.nextInt(60) == 0 ? r.nextInt(4) - 1 : r.nextInt(5) < 2 ? 1 : 0;
+        type(sort);
+        int want = m.cell(name, sort);
+        same("cell(" + name + ", " + sort + ")", b -> b.cell(name, sort), want);
+        outcome("cell", want, want);
+    }
+
+    static void byHand(int o) {
+        int method = r.nextInt(20) == 0 ? r.nextInt(8) - 2 : r.nextInt(5);
+        int argument = r.nextInt(5);
+        int want = m.call(o, method, argument);
+        same("call(" + o + ", " + method + ", " + argument + ")", b -> b.call(o, method, argument), want);
+        count(want < 0 ? "call refused" : "call outcome " + want + " failure " + m.came(2));
+    }
+
+    static void outcome(String call, int answer, int c) {
+        if (answer < 0) {
+            count(call + (answer <= -100 ? " with a FAULT" : " refused"));
+            return;
+        }
+        Cel cel = m.s.cels.get(c);
+        count(call + " outcome " + cel.outcome + " failure " + cel.failure);
+        if (cel.wrote.size() > 20) { count("wrote above 20"); }
+    }
+
+    static void countLimits() {
+        if (m.s.eds.size() == 150) { count("runs with 150 editions"); }
+        if (m.s.objs.size() == 150) { count("runs with 150 objects"); }
+        if (m.s.cels.size() == 40) { count("runs with 40 cells"); }
+        for (Ed e : m.s.eds) { if (e.sort == 1 && !e.shape.start.isEmpty()) { count("starts, state " + e.state); } }
+    }
+
+    // ---- what is asked behind a run
+
+    static void look(List<Look> looks, int oneIn, String told, Call call, long want) {
+        if (r.nextInt(oneIn) == 0) { looks.add(new Look(told, call, want)); }
+    }
+
+    static void lookAtCells(List<Look> looks) {
+        Set<Integer> stale = m.stale();
+        for (int cell = -1; cell <= m.s.cels.size(); cell++) {
+            int c = cell;
+            look(looks, 1, "stale(" + c + ")", b -> bit(b.stale(c)), bit(stale.contains(c)));
+            for (int k = -1; k <= 21; k++) {
+                int i = k;
+                if (i <= 9) { look(looks, 1, "of(" + c + ", " + i + ")", b -> b.of(c, i), m.of(c, i)); }
+                if (i <= 16) { look(looks, 2, "leans(" + c + ", " + i + ")", b -> b.leans(c, i), m.leans(c, i)); }
+                for (int w = -1; w <= 2; w++) {
+                    int what = w;
+                    look(looks, 6, "written(" + c + ", " + i + ", " + what + ")",
+                        b -> b.written(c, i, what), m.written(c, i, what));
                 }
             }
         }
-        for (int what = -1; what <= 4; what++) {
-            same("count(" + what + ")", x.count(what), m.count(what));
-            same("came(" + what + ")", x.came(what), m.came(what));
+    }
+
+    static void lookAtEditions(List<Look> looks) {
+        for (int w = -1; w <= 4; w++) {
+            int what = w;
+            look(looks, 1, "count(" + what + ")", b -> b.count(what), m.count(what));
+            look(looks, 1, "came(" + what + ")", b -> b.came(what), m.came(what));
         }
-        for (int n = -1; n <= 16; n++) { same("newest(" + n + ")", x.newest(n), m.newest(n)); }
-        for (int e = -1; e <= m.s.eds.size(); e++) {
-            for (int what = -1; what <= 8; what++) {
-                same("edition(" + e + ", " + what + ")", x.edition(e, what), m.edition(e, what));
+        for (int n = -1; n <= 16; n++) {
+            int name = n;
+            look(looks, 1, "newest(" + name + ")", b -> b.newest(name), m.newest(name));
+        }
+        for (int k = -1; k <= m.s.eds.size(); k++) {
+            int e = k;
+            for (int w = -1; w <= 8; w++) {
+                int what = w;
+                look(looks, 1, "edition(" + e + ", " + what + ")", b -> b.edition(e, what), m.edition(e, what));
             }
         }
-        for (int o = -1; o <= m.s.objs.size(); o++) {
-            same("classOf(" + o + ")", x.classOf(o), m.classOf(o));
-            for (int f = -1; f <= 10; f++) {
-                same("field(" + o + ", " + f + ", 0)", x.field(o, f, 0), m.field(o, f, 0));
-                same("field(" + o + ", " + f + ", 1)", x.field(o, f, 1), m.field(o, f, 1));
+    }
+
+    static void lookAtObjects(List<Look> looks) {
+        for (int k = -1; k <= m.s.objs.size(); k++) {
+            int o = k;
+            look(looks, 1, "classOf(" + o + ")", b -> b.classOf(o), m.classOf(o));
+            for (int g = -1; g <= 10; g++) {
+                int f = g;
+                look(looks, 2, "field(" + o + ", " + f + ", 0)", b -> b.field(o, f, 0), m.field(o, f, 0));
+                look(looks, 2, "field(" + o + ", " + f + ", 1)", b -> b.field(o, f, 1), m.field(o, f, 1));
             }
-            for (int e = -1; e <= m.s.eds.size(); e++) {
-                same("is(" + o + ", " + e + ")", x.is(o, e) ? 1 : 0, m.is(o, e) ? 1 : 0);
+            for (int n = -1; n <= m.s.eds.size(); n++) {
+                int e = n;
+                look(looks, 20, "is(" + o + ", " + e + ")", b -> bit(b.is(o, e)), bit(m.is(o, e)));
             }
         }
+    }
+
+    /** Asks what the books have calls for; each book but the first hears the run anew. */
+    static void lookAround() {
+        List<Look> looks = new ArrayList<>();
+        lookAtCells(looks);
+        lookAtEditions(looks);
+        lookAtObjects(looks);
+        java.util.Collections.shuffle(looks, r);
+        int perBook = CALLS_MOST - heard.size();
+        for (int i = 0; i < looks.size() && i < BOOKS * perBook && wrong == 0; i++) {
+            if (i > 0 && i % perBook == 0) {
+                x = new EditionBook();
+                for (Call call : heard) { call.on(x); }
+            }
+            compare(looks.get(i).told, looks.get(i).call.on(x), looks.get(i).want);
+        }
+    }
+
+    static void oneRun() {
+        r = new Random(seed);
+        x = new EditionBook();
+        m = new Model();
+        log = new ArrayList<>();
+        heard = new ArrayList<>();
+        mood = MOODS[r.nextInt(MOODS.length)];
+        sizeMost = 2 + r.nextInt(8);
+        int names = 2 + r.nextInt(15);
+        int calls = r.nextInt(CALLS_MOST - CALLS_OF_STEP);
+        while (heard.size() < calls && wrong == 0) { step(names); }
+        countLimits();
+        lookAround();
     }
 
     public static void main(String[] args) {
         int runs = args.length > 0 ? Integer.parseInt(args[0]) : 1000;
         long first = args.length > 1 ? Long.parseLong(args[1]) : 1;
-        for (seed = first; seed < first + runs && wrong == 0; seed++) {
-            Random r = new Random(seed);
-            EditionBook x = new EditionBook();
-            Model m = new Model();
-            log = new ArrayList<>();
-            int names = 2 + r.nextInt(15);
-            int steps = r.nextInt(200);
-            for (int i = 0; i < steps && wrong == 0; i++) { step(x, m, r, names); }
-            if (wrong == 0) { lookAtAll(x, m); }
-        }
+        for (seed = first; seed < first + runs && wrong == 0; seed++) { oneRun(); }
         if (args.length > 0) { seen.forEach((key, many) -> System.out.println(key + ": " + many)); }
         System.out.println(wrong == 0 ? runs + " runs are as the model's" : wrong + " answers are not as the model's");
         if (wrong != 0) { System.exit(1); }

@@ -16,53 +16,16 @@ public final class PromiseTest {
         due(call, got ? 1 : 0, want ? 1 : 0);
     }
 
-    /** The tape has just these ints. */
-    private static void type(EditionBook x, int... ints) {
-        x.wipe();
-        for (int k : ints) {
-            x.put(1, k, 0, 0, 0);
-        }
-    }
-
-    private static int newCell(EditionBook x, int name, int sort, int... text) {
-        type(x, text);
+    private static int newCell(Book x, int name, int sort, int... text) {
+        x.type(text);
         return x.cell(name, sort);
-    }
-
-    private static int redo(EditionBook x, int c, int... text) {
-        type(x, text);
-        return x.redo(c);
-    }
-
-    private static int[] join(int[]... parts) {
-        int many = 0;
-        for (int[] p : parts) {
-            many += p.length;
-        }
-        int[] all = new int[many];
-        int at = 0;
-        for (int[] p : parts) {
-            System.arraycopy(p, 0, all, at, p.length);
-            at += p.length;
-        }
-        return all;
-    }
-
-    private static int[] row(int... ints) {
-        return ints;
-    }
-
-    private static int[] times(int n, int... ints) {
-        int[][] parts = new int[n][];
-        java.util.Arrays.fill(parts, ints);
-        return join(parts);
     }
 
     // ---- promise 1
 
     private static void newObject() {
         part = "promise 1";
-        EditionBook x = new EditionBook();
+        Book x = new Book();
         for (int what = 0; what < 4; what++) {
             due("count", x.count(what), 0);
             due("came", x.came(what), 0);
@@ -84,7 +47,7 @@ public final class PromiseTest {
 
     private static void tape() {
         part = "promises 2, 3";
-        EditionBook x = new EditionBook();
+        Book x = new Book();
         due("put(0, ..)", x.put(0, 1, 2, 3, 4), -1);
         due("put(5, ..)", x.put(5, 1, 2, 3, 4), -1);
         due("put(-1, ..)", x.put(-1, 1, 2, 3, 4), -1);
@@ -115,8 +78,8 @@ public final class PromiseTest {
 
     private static void cell() {
         part = "promise 4";
-        EditionBook x = new EditionBook();
-        type(x, 0, 1);
+        Book x = new Book();
+        x.type(0, 1);
         due("cell(-1, 0)", x.cell(-1, 0), -1);
         due("cell(16, 0)", x.cell(16, 0), -1);
         due("cell(0, -1)", x.cell(0, -1), -1);
@@ -137,7 +100,7 @@ public final class PromiseTest {
         due("a 41st, wrong name", x.cell(16, 0), -1);
         due("count(2)", x.count(2), 40);
 
-        x = new EditionBook();
+        x = new Book();
         newCell(x, 0, 0, 0, 1);
         for (int e = 1; e < 150; e++) {
             due("rerun", x.rerun(0), 0);
@@ -157,12 +120,12 @@ public final class PromiseTest {
     }
 
     private static void faultOf(int sort, int place, int... text) {
-        EditionBook x = new EditionBook();
+        Book x = new Book();
         newCell(x, 0, 0, 0, 1);
         newCell(x, 1, 1, -1, 0, 0);
         newCell(x, 2, 0, 0, 1);
         x.forget(2);
-        type(x, text);
+        x.type(text);
         String told = "cell(3, " + sort + ") of " + java.util.Arrays.toString(text);
         due(told, x.cell(3, sort), place < 0 ? 3 : -100 - place);
         due("count(3) behind that", x.count(3), place < 0 ? 0 : text.length);
@@ -282,33 +245,33 @@ public final class PromiseTest {
 
     private static void redoAndRerun() {
         part = "promises 5, 6";
-        EditionBook x = new EditionBook();
+        Book x = new Book();
         newCell(x, 0, 0, 0, 5);
         newCell(x, 1, 0, 1, 0, 0, 1, 8);
         due("edition(1, 6)", x.edition(1, 6), 6);
-        due("redo(-1)", redo(x, -1, 0, 1), -1);
-        due("redo(2)", redo(x, 2, 0, 1), -1);
+        due("redo(-1)", x.retype(-1, 0, 1), -1);
+        due("redo(2)", x.retype(2, 0, 1), -1);
         due("rerun(-1)", x.rerun(-1), -1);
         due("rerun(2)", x.rerun(2), -1);
-        due("redo WELL", redo(x, 0, 0, 10), 0);
+        due("redo WELL", x.retype(0, 0, 10), 0);
         due("the tape is empty", x.count(3), 0);
         due("newest(0)", x.newest(0), 2);
-        type(x, 9, 9, 9);
+        x.type(9, 9, 9);
         due("rerun WELL", x.rerun(1), 0);
         due("the tape is as it was", x.wipe(), 3);
         due("edition(3, 6)", x.edition(3, 6), 11);
-        due("redo with a FAULT", redo(x, 0, 0, 1, 0, 1), -104);
+        due("redo with a FAULT", x.retype(0, 0, 1, 0, 1), -104);
         due("the tape stays", x.count(3), 4);
         due("the TEXT stays", x.of(0, 8), 2);
         due("rerun by the TEXT that stayed", x.rerun(0), 0);
         due("edition(4, 6)", x.edition(4, 6), 10);
-        due("redo FAILED", redo(x, 0, 0, 1, 0, 0, 11), 1);
+        due("redo FAILED", x.retype(0, 0, 1, 0, 0, 11), 1);
         due("the tape is empty", x.count(3), 0);
         due("the TEXT is the new one", x.of(0, 8), 5);
         due("no new EDITION", x.newest(0), 4);
         due("of(0, 4)", x.of(0, 4), -1);
         due("rerun FAILED", x.rerun(0), 1);
-        due("a CELL keeps its SORT", redo(x, 0, -1, 0, 0), -100);
+        due("a CELL keeps its SORT", x.retype(0, -1, 0, 0), -100);
         x.forget(0);
         due("rerun with a FAULT", x.rerun(1), -100);
         due("of the RUN before", x.of(1, 4), 3);
@@ -320,12 +283,12 @@ public final class PromiseTest {
 
     private static void rerunStale() {
         part = "promise 7";
-        EditionBook x = new EditionBook();
+        Book x = new Book();
         newCell(x, 0, 0, 0, 1);
         newCell(x, 1, 0, 0, 5);
         newCell(x, 2, 0, 1, 0);
-        redo(x, 1, 1, 2);
-        redo(x, 0, 0, 7);
+        x.retype(1, 1, 2);
+        x.retype(0, 0, 7);
         due("stale(0)", x.stale(0), false);
         due("stale(1)", x.stale(1), true);
         due("stale(2)", x.stale(2), true);
@@ -336,10 +299,10 @@ public final class PromiseTest {
         due("stale(1)", x.stale(1), false);
         due("none", x.rerunStale(), 0);
 
-        x = new EditionBook();
+        x = new Book();
         newCell(x, 0, 0, 0, 1);
         newCell(x, 1, 0, 1, 0);
-        redo(x, 0, 1, 1);
+        x.retype(0, 1, 1);
         due("a ring: stale(0)", x.stale(0), true);
         due("a ring: stale(1)", x.stale(1), true);
         due("a ring", x.rerunStale(), 2);
@@ -348,25 +311,25 @@ public final class PromiseTest {
         due("stale(0) again", x.stale(0), true);
         due("stale(1) again", x.stale(1), true);
 
-        x = new EditionBook();
+        x = new Book();
         newCell(x, 0, 0, 0, 1);
-        redo(x, 0, 1, 0, 0, 1, 8);
+        x.retype(0, 1, 0, 0, 1, 8);
         due("stale by itself", x.stale(0), true);
         due("rerunStale", x.rerunStale(), 1);
         due("its VALUE", x.edition(2, 6), 3);
 
-        x = new EditionBook();
+        x = new Book();
         newCell(x, 0, 0, 0, 1);
         newCell(x, 1, 0, 1, 0);
         newCell(x, 2, 0, 0, 6, 1, 1, 11);
         newCell(x, 3, 0, 1, 2);
         x.forget(2);
-        redo(x, 0, 0, 0);
+        x.retype(0, 0, 0);
         due("one has a FAULT, one FAILS, both aren't WAITING any more", x.rerunStale(), 2);
         due("of(2, 1)", x.of(2, 1), 2);
         due("count(0)", x.count(0), 6);
 
-        x = new EditionBook();
+        x = new Book();
         newCell(x, 0, 0, 0, 1);
         newCell(x, 1, 0, 1, 0);
         newCell(x, 2, 0, 1, 0);
@@ -379,7 +342,7 @@ public final class PromiseTest {
         due("one by hand", x.rerun(1), 0);
         due("150 and one STALE", x.rerunStale(), -2);
 
-        x = new EditionBook();
+        x = new Book();
         newCell(x, 0, 0, 0, 1);
         newCell(x, 1, 0, 1, 0);
         newCell(x, 2, 0, 1, 0);
@@ -395,7 +358,7 @@ public final class PromiseTest {
 
     private static void forgetAndStale() {
         part = "promises 8, 11, 14";
-        EditionBook x = new EditionBook();
+        Book x = new Book();
         due("forget(-1)", x.forget(-1), -1);
         due("forget(16)", x.forget(16), -1);
         due("forget(15)", x.forget(15), 0);
@@ -421,10 +384,10 @@ public final class PromiseTest {
         due("rerunStale", x.rerunStale(), 2);
         due("stale(2)", x.stale(2), false);
         // a CELL that FAILED made no new EDITION: what leans on its older one isn't STALE by that
-        redo(x, 0, 0, 1, 0, 0, 11);
+        x.retype(0, 0, 1, 0, 0, 11);
         due("stale(1)", x.stale(1), false);
         // it leans on its own EDITION, and FAILED: by itself alone it isn't STALE
-        redo(x, 0, 1, 15, 0, 0, 11);
+        x.retype(0, 1, 15, 0, 0, 11);
         due("stale(0)", x.stale(0), false);
         // two NAMES whose EDITIONS aren't the newest of their own CELLS
         newCell(x, 15, 0, 0, 4);
@@ -435,7 +398,7 @@ public final class PromiseTest {
 
     private static void told() {
         part = "promises 9, 10, 12";
-        EditionBook x = new EditionBook();
+        Book x = new Book();
         newCell(x, 3, 1, -1, 1, 0, 4, 1, 0, 3, 17, 15, 15);
         newCell(x, 9, 0, 2, 3);
         newCell(x, 5, 0, 1, 9, 0, 8, 7, 0, 2, 3, 15, 18);
@@ -470,12 +433,12 @@ public final class PromiseTest {
         due("written(3, 0, 1)", x.written(3, 0, 1), 0);
         due("written(-1, 0, 1)", x.written(-1, 0, 1), 0);
 
-        redo(x, 2, join(row(0, 7), times(25, 15)));
+        x.retype(2, Rows.join(Rows.row(0, 7), Rows.times(25, 15)));
         due("all are counted", x.of(2, 3), 25);
         due("of(2, 7)", x.of(2, 7), 0);
         due("written(2, 19, 1)", x.written(2, 19, 1), 7);
         due("written(2, 20, 1)", x.written(2, 20, 1), 0);
-        redo(x, 2, 0, 6, 15, 0, 0, 11);
+        x.retype(2, 0, 6, 15, 0, 0, 11);
         due("what was written stays", x.written(2, 0, 1), 6);
         due("nothing of the RUN before", x.written(2, 1, 1), 0);
         due("of(2, 0)", x.of(2, 0), 1);
@@ -498,13 +461,13 @@ public final class PromiseTest {
 
     private static void editions() {
         part = "promises 13, 15";
-        EditionBook x = new EditionBook();
+        Book x = new Book();
         newCell(x, 3, 1, -1, 0, 0);
         newCell(x, 4, 1, 3, 0, 0, 0, 1);
         newCell(x, 0, 0, 0, -3);
         newCell(x, 1, 0, 2, 4);
         x.rerun(0);
-        type(x, 1, 2, 3);
+        x.type(1, 2, 3);
         int[][] wants = {
             {3, 0, 0, 1, 0, -1, 1, 0},
             {4, 0, 1, 1, 1, 0, 1, 1},
@@ -534,7 +497,7 @@ public final class PromiseTest {
     // ---- acts
 
     private static void comes(int want, int... code) {
-        EditionBook x = bookForActs();
+        Book x = bookForActs();
         newCell(x, 9, 0, code);
         String told = java.util.Arrays.toString(code);
         due("OUTCOME of " + told, x.of(5, 0), 0);
@@ -542,7 +505,7 @@ public final class PromiseTest {
     }
 
     private static void fails(int kind, int steps, int... code) {
-        EditionBook x = bookForActs();
+        Book x = bookForActs();
         newCell(x, 9, 0, code);
         String told = java.util.Arrays.toString(code);
         due("OUTCOME of " + told, x.of(5, 0), 1);
@@ -552,8 +515,8 @@ public final class PromiseTest {
     }
 
     /** NAMES: 0 and 1 CLASSES (1 below 0), 2 an OBJECT of 0 (number 0), 3 one of 1 (number 1), 4 the int 5. */
-    private static EditionBook bookForActs() {
-        EditionBook x = new EditionBook();
+    private static Book bookForActs() {
+        Book x = new Book();
         newCell(x, 0, 1, -1, 2, 0, 10, 1, 11, 2, 0, 4, 17, 0, 1, 8, 1, 1, 16);
         newCell(x, 1, 1, 0, 2, 1, 21, 2, 22, 1, 0, 4, 17, 0, 2, 8);
         newCell(x, 2, 0, 2, 0);
@@ -631,13 +594,13 @@ public final class PromiseTest {
 
     private static void oldMeaning() {
         part = "old meaning";
-        EditionBook x = new EditionBook();
+        Book x = new Book();
         newCell(x, 0, 0, 0, 5);
         newCell(x, 1, 1, -1, 0, 1, 0, 2, 1, 0);
         newCell(x, 2, 1, 1, 1, 0, 3, 1, 1, 2, 2, 1);
         newCell(x, 3, 0, 2, 2);
-        redo(x, 0, 0, 6);
-        redo(x, 1, -1, 0, 1, 0, 2, 1, 0);
+        x.retype(0, 0, 6);
+        x.retype(1, -1, 0, 1, 0, 2, 1, 0);
         x.call(0, 0, 0);
         due("METHOD of the older parent, with the older VALUE", x.came(1), 5);
         x.call(0, 1, 0);
@@ -659,7 +622,7 @@ public final class PromiseTest {
 
     private static void starts() {
         part = "starts";
-        EditionBook x = new EditionBook();
+        Book x = new Book();
         newCell(x, 0, 1, -1, 0, 0, 0, 1, 15);
         newCell(x, 1, 1, 0, 0, 0);
         newCell(x, 2, 1, 1, 0, 0, 0, 3, 15);
@@ -675,7 +638,7 @@ public final class PromiseTest {
         due("edition(0, 7)", x.edition(0, 7), 0);
 
         // a START that FAILS within one that is on the way
-        x = new EditionBook();
+        x = new Book();
         newCell(x, 0, 1, -1, 0, 0, 0, 1, 15, 5, 0);
         newCell(x, 1, 1, -1, 0, 0, 2, 0);
         newCell(x, 2, 1, 1, 0, 0, 0, 1);
@@ -693,17 +656,17 @@ public final class PromiseTest {
         newCell(x, 4, 0, 2, 1);
         due("later, the parent", x.of(4, 1), 6);
         // a new EDITION of it has a START of its own
-        redo(x, 0, -1, 0, 0, 0, 1, 15);
+        x.retype(0, -1, 0, 0, 0, 1, 15);
         due("RUNNING ALL STALE", x.rerunStale(), 4);
         due("of(3, 0)", x.of(3, 0), 0);
     }
 
     /** NAME 0 a CLASS, 1 its OBJECT (number 0), whose FIELD 0 gets an OBJECT of 4, which makes one of 3, below 2. */
-    private static EditionBook bookOfRings(int... behind) {
-        EditionBook x = new EditionBook();
+    private static Book bookOfRings(int... behind) {
+        Book x = new Book();
         newCell(x, 0, 1, -1, 1, 0, 0, 0);
         newCell(x, 1, 0, 2, 0);
-        newCell(x, 2, 1, join(row(-1, 0, 0, 1, 1, 5, 0, 0, 0, 7, 0), behind));
+        newCell(x, 2, 1, Rows.join(Rows.row(-1, 0, 0, 1, 1, 5, 0, 0, 0, 7, 0), behind));
         newCell(x, 3, 1, 2, 0, 0, 0, 7, 15);
         newCell(x, 4, 1, -1, 0, 1, 0, 2, 2, 3);
         newCell(x, 5, 0, 1, 1, 2, 4, 6, 0);
@@ -712,7 +675,7 @@ public final class PromiseTest {
 
     private static void startsOnTheWay() {
         part = "starts on the way";
-        EditionBook x = bookOfRings();
+        Book x = bookOfRings();
         due("cell", newCell(x, 6, 0, 2, 3), 6);
         due("of(6, 0)", x.of(6, 0), 0);
         due("its START once", x.of(6, 3), 1);
@@ -741,9 +704,9 @@ public final class PromiseTest {
      * told one, 3 its OBJECT (number 0), 4 a CLASS whose METHOD 0, with argument a up to 19, calls itself with
      * a + 1, and behind that METHOD 0 of OBJECT 0; 5 its OBJECT (number 1).
      */
-    private static EditionBook bookOfDepth(int made, int... startOfUpper) {
-        EditionBook x = new EditionBook();
-        newCell(x, 0, 1, join(row(-1, 0, 0), startOfUpper));
+    private static Book bookOfDepth(int made, int... startOfUpper) {
+        Book x = new Book();
+        newCell(x, 0, 1, Rows.join(Rows.row(-1, 0, 0), startOfUpper));
         newCell(x, 1, 1, 0, 0, 0, 0, 1);
         newCell(x, 2, 1, -1, 0, 1, 0, 2, 2, made);
         newCell(x, 3, 0, 2, 2);
@@ -754,7 +717,7 @@ public final class PromiseTest {
 
     private static void depth() {
         part = "depth";
-        EditionBook x = bookOfDepth(0, 0, 1);
+        Book x = bookOfDepth(0, 0, 1);
         due("a METHOD within 20 others", x.call(1, 0, 0), 1);
         due("came(2)", x.came(2), 7);
         due("came(3)", x.came(3), 200);
@@ -795,26 +758,26 @@ public final class PromiseTest {
     // ---- steps
 
     /** NAME 0 a CLASS whose METHOD 0 makes 139 STEPS, 1 its OBJECT (number 0). */
-    private static EditionBook bookOfSteps() {
-        EditionBook x = new EditionBook();
-        int[] ends = times(4, 18);
-        newCell(x, 0, 1, join(row(-1, 0, 3, 0, 24), times(5, 16, 17, 7, 1), ends,
-            row(1, 24), times(5, 16, 17, 7, 2), ends, row(2, 1, 17)));
+    private static Book bookOfSteps() {
+        Book x = new Book();
+        int[] ends = Rows.times(4, 18);
+        newCell(x, 0, 1, Rows.join(Rows.row(-1, 0, 3, 0, 24), Rows.times(5, 16, 17, 7, 1), ends,
+            Rows.row(1, 24), Rows.times(5, 16, 17, 7, 2), ends, Rows.row(2, 1, 17)));
         newCell(x, 1, 0, 2, 0);
         return x;
     }
 
     private static void steps() {
         part = "steps";
-        int[] thousand = join(times(7, 1, 1, 0, 1, 7, 0), times(6, 18));
-        EditionBook x = bookOfSteps();
+        int[] thousand = Rows.join(Rows.times(7, 1, 1, 0, 1, 7, 0), Rows.times(6, 18));
+        Book x = bookOfSteps();
         x.call(0, 0, 6);
         due("came(1)", x.came(1), 6);
         due("came(3)", x.came(3), 139);
         newCell(x, 2, 0, thousand);
         due("1,000 STEPS", x.of(2, 0), 0);
         due("of(2, 2)", x.of(2, 2), 1000);
-        due("redo with 1,001", redo(x, 2, join(thousand, row(15))), 2);
+        due("redo with 1,001", x.retype(2, Rows.join(thousand, Rows.row(15))), 2);
         due("of(2, 0)", x.of(2, 0), 2);
         due("of(2, 1)", x.of(2, 1), 0);
         due("of(2, 2)", x.of(2, 2), 1000);
@@ -822,7 +785,7 @@ public final class PromiseTest {
         due("of(2, 4)", x.of(2, 4), -1);
         due("rerun", x.rerun(2), 2);
 
-        newCell(x, 3, 1, join(row(-1, 0, 0), thousand));
+        newCell(x, 3, 1, Rows.join(Rows.row(-1, 0, 0), thousand));
         newCell(x, 4, 0, 2, 3);
         due("SPENT in a START", x.of(4, 0), 2);
         due("of(4, 2)", x.of(4, 2), 1000);
@@ -830,11 +793,11 @@ public final class PromiseTest {
         due("later", x.rerun(4), 1);
         due("of(4, 1)", x.of(4, 1), 6);
 
-        newCell(x, 5, 1, join(row(-1, 0, 1, 4, 48), thousand));
+        newCell(x, 5, 1, Rows.join(Rows.row(-1, 0, 1, 4, 48), thousand));
         newCell(x, 6, 0, 2, 5);
         due("1,000 by hand", x.call(1, 4, 0), 0);
         due("came(3)", x.came(3), 1000);
-        redo(x, 5, join(row(-1, 0, 1, 4, 49), thousand, row(15)));
+        x.retype(5, Rows.join(Rows.row(-1, 0, 1, 4, 49), thousand, Rows.row(15)));
         x.rerun(6);
         due("1,001 by hand", x.call(2, 4, 0), 2);
         for (int what = 0; what < 3; what++) {
@@ -847,7 +810,7 @@ public final class PromiseTest {
 
     private static void objects() {
         part = "promises 16 to 18";
-        EditionBook x = bookForActs();
+        Book x = bookForActs();
         due("classOf(0)", x.classOf(0), 0);
         due("classOf(1)", x.classOf(1), 1);
         due("classOf(2)", x.classOf(2), -1);
@@ -879,7 +842,7 @@ public final class PromiseTest {
 
     private static void calls() {
         part = "promises 19, 20";
-        EditionBook x = bookForActs();
+        Book x = bookForActs();
         due("call(0, 0, 5)", x.call(0, 0, 5), 0);
         due("came(0)", x.came(0), 0);
         due("came(1)", x.came(1), 6);
@@ -907,7 +870,7 @@ public final class PromiseTest {
         due("what FIELDS got", x.call(2, 0, 33), 0);
         due("field(2, 0, 1)", x.field(2, 0, 1), 33);
         due("told by nobody", x.of(6, 3), 0);
-        redo(x, 5, -1, 1, 0, 0, 1, 0, 7, 16, 17, 6, 0, 0, 0, 11);
+        x.retype(5, -1, 1, 0, 0, 1, 0, 7, 16, 17, 6, 0, 0, 0, 11);
         x.rerun(6);
         due("FAILED", x.call(3, 0, 44), 1);
         due("came(2)", x.came(2), 2);
@@ -917,7 +880,7 @@ public final class PromiseTest {
 
     private static void convert() {
         part = "promise 21";
-        EditionBook x = bookForActs();
+        Book x = bookForActs();
         due("convert(2, 0)", x.convert(2, 0), -1);
         due("convert(-1, 0)", x.convert(-1, 0), -1);
         due("convert(0, 4), a VALUE", x.convert(0, 4), -1);
@@ -939,8 +902,8 @@ public final class PromiseTest {
         x.forget(5);
         due("FORGOTTEN", x.convert(1, 5), -1);
         newCell(x, 6, 1, -1, 0, 0, 0, 9, 15);
-        while (x.count(1) < 150) {
-            due("convert", x.convert(0, 0), x.count(1) - 1);
+        for (int o = 4; o < 150; o++) {
+            due("convert", x.convert(0, 0), o);
         }
         due("150 OBJECTS", x.convert(0, 0), -2);
         due("150 OBJECTS, no CLASS", x.convert(0, 4), -1);
@@ -955,7 +918,7 @@ public final class PromiseTest {
 
     private static void images() {
         part = "promises 22, 23";
-        EditionBook x = bookForActs();
+        Book x = bookForActs();
         due("keep(-1)", x.keep(-1), false);
         due("keep(2)", x.keep(2), false);
         due("back(-1)", x.back(-1), false);
@@ -964,12 +927,12 @@ public final class PromiseTest {
         due("keep(0)", x.keep(0), true);
         due("back(1), nothing is", x.back(1), false);
         newCell(x, 6, 0, 1, 2, 0, 99, 6, 0);
-        redo(x, 4, 0, 8);
+        x.retype(4, 0, 8);
         newCell(x, 7, 1, 0, 0, 0);
         x.forget(3);
         x.call(0, 0, 41);
         due("keep(1)", x.keep(1), true);
-        type(x, 1, 2, 3);
+        x.type(1, 2, 3);
         due("back(0)", x.back(0), true);
         due("the tape isn't", x.count(3), 3);
         due("came() isn't", x.came(1), 42);
@@ -994,7 +957,7 @@ public final class PromiseTest {
         due("count(0)", x.count(0), 8);
 
         // whether a START was begun is kept, too
-        x = new EditionBook();
+        x = new Book();
         newCell(x, 0, 1, -1, 0, 0, 0, 1, 5, 0);
         x.keep(0);
         newCell(x, 1, 0, 2, 0);
@@ -1003,38 +966,57 @@ public final class PromiseTest {
         due("edition(0, 6) behind back(0)", x.edition(0, 6), 0);
     }
 
+    private static Book bookForWild(int kind) {
+        switch (kind) {
+            case 0:
+                return new Book();
+            case 1:
+                return bookForActs();
+            default:
+                return bookOfDepth(0, 0, 1);
+        }
+    }
+
+    private static void wildNumber(Book x, int a) {
+        x.put(a, a, a, a, a);
+        x.redo(a);
+        x.rerun(a);
+        x.forget(a);
+        x.stale(a);
+        x.count(a);
+        x.newest(a);
+        x.classOf(a);
+        x.came(a);
+        x.keep(a);
+        x.back(a);
+        x.rerunStale();
+    }
+
+    private static void wildPair(Book x, int a, int b) {
+        x.cell(a, b);
+        x.of(a, b);
+        x.leans(a, b);
+        x.edition(a, b);
+        x.is(a, b);
+        x.convert(a, b);
+    }
+
     /** Any arguments, in an empty book and in one that isn't: no call may throw. */
     private static void wildArguments() {
         part = "wild arguments";
         int[] wild = {Integer.MIN_VALUE, -101, -3, -2, -1, 0, 1, 2, 15, 16, 39, 40, 149, 150, Integer.MAX_VALUE};
-        EditionBook[] books = {new EditionBook(), bookForActs(), bookOfDepth(0, 0, 1)};
-        for (EditionBook x : books) {
+        for (int kind = 0; kind < 3; kind++) {
             for (int a : wild) {
+                wildNumber(bookForWild(kind), a);
                 for (int b : wild) {
-                    x.cell(a, b);
-                    x.of(a, b);
-                    x.leans(a, b);
-                    x.edition(a, b);
-                    x.is(a, b);
-                    x.convert(a, b);
+                    Book x = bookForWild(kind);
+                    wildPair(x, a, b);
                     for (int c : wild) {
                         x.written(a, b, c);
                         x.field(a, b, c);
                         x.call(a, b, c);
                     }
                 }
-                x.put(a, a, a, a, a);
-                x.redo(a);
-                x.rerun(a);
-                x.forget(a);
-                x.stale(a);
-                x.count(a);
-                x.newest(a);
-                x.classOf(a);
-                x.came(a);
-                x.keep(a);
-                x.back(a);
-                x.rerunStale();
             }
         }
         due("it came here", 1, 1);
